@@ -1,0 +1,250 @@
+/** Promises 2 to 5: the tape, TOKENS, RULES and FAULTS. */
+public final class LawTextTest {
+    private static final Check CHECK = new Check();
+
+    public static void main(String[] args) {
+        feedAndBack();
+        bytesInOrder();
+        refusedReads();
+        eightLaws();
+        latestPlace();
+        tokens();
+        rules();
+        goesOn();
+        textEnds();
+        roomForTokens();
+        roomForRules();
+        roomForParentheses();
+        firstFault();
+        CHECK.finish();
+    }
+
+    /** What read() and place() answer to a text on a new object. */
+    private static void due(String text, int fault, int place) {
+        PromiseCourt court = new PromiseCourt();
+        CHECK.due("read of '" + text + "'", Check.read(court, text, 0, 0), fault);
+        CHECK.due("place of '" + text + "'", court.place(), place);
+        CHECK.due("laws after '" + text + "'", court.count(4), fault == 0 ? 1 : 0);
+        CHECK.due("tape after '" + text + "'", court.count(5), 0);
+    }
+
+    private static void good(String text) {
+        due(text, 0, -1);
+    }
+
+    private static void feedAndBack() {
+        PromiseCourt court = new PromiseCourt();
+        for (int i = 1; i <= 99; i++) {
+            CHECK.due("feed " + i, court.feed(i, i, i, i, i), 20 * i);
+        }
+        CHECK.due("back(-1)", court.back(-1), -1);
+        CHECK.due("back(least)", court.back(Integer.MIN_VALUE), -1);
+        CHECK.due("back(1981)", court.back(1981), -1);
+        CHECK.due("back(greatest)", court.back(Integer.MAX_VALUE), -1);
+        CHECK.due("back(0)", court.back(0), 1980);
+        CHECK.due("feed to 2000", court.feed(0, 0, 0, 0, 0), 2000);
+        CHECK.due("feed over 2000", court.feed(0, 0, 0, 0, 0), -1);
+        CHECK.due("count after a refused feed", court.count(5), 2000);
+        CHECK.due("back(19)", court.back(19), 1981);
+        CHECK.due("feed at 1981", court.feed(0, 0, 0, 0, 0), -1);
+        CHECK.due("back(1)", court.back(1), 1980);
+        CHECK.due("feed at 1980", court.feed(0, 0, 0, 0, 0), 2000);
+        CHECK.due("back(2000)", court.back(2000), 0);
+        CHECK.due("back(1) of an empty tape", court.back(1), -1);
+    }
+
+    private static void bytesInOrder() {
+        PromiseCourt court = new PromiseCourt();
+        CHECK.due("feed", court.feed(0x6c617073, 0x65203132, 0x3b20ff20, 0x20202020, 0x20202020), 20);
+        CHECK.due("a byte of 255", court.read(0, 0), 1);
+        CHECK.due("its place", court.place(), 10);
+        court.feed(0x6c617073, 0x65203132, 0x3b6c6170, 0x73652033, 0x343b3b3b);
+        court.back(2);
+        CHECK.due("two lapses", court.read(0, 0), 0);
+        good(Check.times(124, " \t\n\r            ") + "lapse 1;" + Check.times(8, " "));
+    }
+
+    private static void refusedReads() {
+        PromiseCourt court = new PromiseCourt();
+        Check.feed(court, "lapse;");
+        CHECK.due("read(-1, 0)", court.read(-1, 0), -1);
+        CHECK.due("read(4, 0)", court.read(4, 0), -1);
+        CHECK.due("read(0, -1)", court.read(0, -1), -1);
+        CHECK.due("read(0, 10000)", court.read(0, 10000), -1);
+        CHECK.due("the tape stays", court.count(5), 6);
+        CHECK.due("no place yet", court.place(), -1);
+        CHECK.due("read(3, 9999)", court.read(3, 9999), 1);
+        CHECK.due("the tape is empty", court.count(5), 0);
+        CHECK.due("no law of it", court.count(4), 0);
+        CHECK.due("read(3, 9999) of nothing", court.read(3, 9999), 0);
+        CHECK.due("a law of it", court.count(4), 1);
+    }
+
+    private static void eightLaws() {
+        PromiseCourt court = new PromiseCourt();
+        for (int i = 0; i < 8; i++) {
+            CHECK.due("a text with a fault", Check.read(court, "x", i % 4, i), 1);
+            CHECK.due("law " + i, Check.read(court, "lapse " + i + ";", i % 4, i), 0);
+            CHECK.due("laws", court.count(4), i + 1);
+        }
+        Check.feed(court, "lapse 8");
+        CHECK.due("a ninth law", court.read(0, 0), -1);
+        CHECK.due("the tape stays", court.count(5), 7);
+        CHECK.due("laws", court.count(4), 8);
+        CHECK.due("place of the eighth", court.place(), -1);
+    }
+
+    private static void latestPlace() {
+        PromiseCourt court = new PromiseCourt();
+        Check.read(court, "lapse 1 1;", 0, 0);
+        CHECK.due("place", court.place(), 8);
+        court.read(9, 0);
+        CHECK.due("place after a read that was NONE", court.place(), 8);
+        Check.read(court, "lapse 1;", 0, 0);
+        CHECK.due("place after a good read", court.place(), -1);
+        Check.read(court, "?", 0, 0);
+        CHECK.due("place at the first byte", court.place(), 0);
+    }
+
+    private static void tokens() {
+        good("lapse 0;lapse0000;lapse9999;");
+        good("lapse\t12\n\r;");
+        due("lapse 12345;", 1, 6);
+        due("lapse 00001;", 1, 6);
+        due("lapse 1 2;", 1, 8);
+        due("lapse 12a;", 1, 8);
+        good("proof if 12<yes;bar if(1)!=2;");
+        due("proofif 1 < 2;", 1, 0);
+        due("proof ifyes < 2;", 1, 6);
+        due("proof if abcdefgh < 2;", 1, 9);
+        due("proof if abcdefghi < 2;", 1, 9);
+        due("proof if yesyesyesyes < 2;", 1, 9);
+        due("Proof if 1 < 2;", 1, 0);
+        due("proof if 1 = 2;", 1, 11);
+        due("proof if 1 ! 2;", 1, 11);
+        due("proof if 1 === 2;", 1, 13);
+        due("proof if 1 < = 2;", 1, 13);
+        due("proof if 1 <== 2;", 1, 13);
+        due("proof if 1 =! 2;", 1, 11);
+        due("proof if 1 > 2;", 1, 11);
+        due("proof if 1 < 2,", 1, 14);
+        due("lapse\u000b1;", 1, 5);
+        due("lapse\u00001;", 1, 5);
+        due("lapse\u00a01;", 1, 5);
+        due("lapse -1;", 1, 6);
+    }
+
+    private static void rules() {
+        good("");
+        good(" \n");
+        good("proof if yes == no; bar if kin != fame; over if tense < age; lapse 1; back degree; back vow if leave <= old;");
+        good("proof if why + days * 2 - (3) < 4 and 1 == 1 or 2 == 2 and 3 != 4;");
+        good("back 1 - 2 - 3 * (yes + (no)) if 1 < 2 or 3 < 4;");
+        due(";", 1, 0);
+        due("lapse 1;;", 1, 8);
+        due("yes", 1, 0);
+        due("1", 1, 0);
+        due("proof 1 < 2;", 1, 6);
+        due("bar;", 1, 3);
+        due("over if;", 1, 7);
+        due("lapse yes;", 1, 6);
+        due("lapse (1);", 1, 6);
+        due("lapse 1 + 1;", 1, 8);
+        due("lapse 1 if 1 < 2;", 1, 8);
+        due("back;", 1, 4);
+        due("back if 1 < 2;", 1, 5);
+        due("back 1 < 2;", 1, 7);
+        due("back 1 and 2;", 1, 7);
+        due("back 1 if 2;", 1, 11);
+        due("back 1 if 1 < 2 if 1 < 2;", 1, 16);
+        due("proof if yes;", 1, 12);
+        due("proof if 1 < 2 if 1 < 2;", 1, 15);
+    }
+
+    private static void goesOn() {
+        due("proof if 1 < 2 < 3;", 1, 15);
+        due("proof if 1 and 2 < 3;", 1, 11);
+        due("proof if 1 or 2 < 3;", 1, 11);
+        due("proof if (1 < 2);", 1, 12);
+        due("proof if (1 and 2);", 1, 12);
+        due("proof if () < 2;", 1, 10);
+        due("proof if (1;", 1, 11);
+        due("proof if (1 if;", 1, 12);
+        due("proof if 1) < 2;", 1, 10);
+        due("proof if (1)) < 2;", 1, 12);
+        due("proof if 1 (2) < 3;", 1, 11);
+        due("proof if 1 2 < 3;", 1, 11);
+        due("proof if yes no < 3;", 1, 13);
+        due("proof if - 1 < 3;", 1, 9);
+        due("proof if 1 + < 3;", 1, 13);
+        due("proof if 1 * * 2 < 3;", 1, 13);
+        due("proof if 1 < ;", 1, 13);
+        due("proof if 1 < 2 and;", 1, 18);
+        due("proof if 1 < 2 or or 1 < 2;", 1, 18);
+        due("proof if and < 2;", 1, 9);
+        due("proof if proof < 2;", 1, 9);
+        due("back back;", 1, 5);
+    }
+
+    private static void textEnds() {
+        due("proof", 1, 5);
+        due("proof  ", 1, 7);
+        due("proof if", 1, 8);
+        due("proof if 1", 1, 10);
+        due("proof if 1 <", 1, 12);
+        due("proof if 1 < 2", 1, 14);
+        due("proof if 1 < 2 or \n", 1, 19);
+        due("lapse", 1, 5);
+        due("lapse 1", 1, 7);
+        due("back (1", 1, 7);
+        due("back 1 if", 1, 9);
+        due("lapse 1; back" + Check.times(1987, " "), 1, 2000);
+    }
+
+    private static void roomForTokens() {
+        // "lapse 1;" and "back 1;" have three TOKENS each, a "+1" has two: 400 in all.
+        String full = "lapse 1;back 1" + Check.times(197, "+1") + ";";
+        int end = full.length();
+        good(full);
+        good(full + "  ");
+        due(full + " lapse 1;", 2, end + 1);
+        due(full + " ;", 1, end + 1);
+        due(full + " yes", 1, end + 1);
+        due(full + " #", 1, end + 1);
+        String open = "back 1" + Check.times(199, "+1");
+        due(open, 1, open.length());
+        due(open + ";", 2, open.length());
+        due(open + " - #", 2, open.length() + 1);
+        due(open + " 1", 1, open.length() + 1);
+        due("lapse 1;back 1" + Check.times(198, "+1") + ";", 2, end);
+    }
+
+    private static void roomForRules() {
+        String sixteen = Check.times(16, "lapse 1;");
+        good(sixteen);
+        due(sixteen + " lapse 1;", 2, 129);
+        due(sixteen + " back;", 2, 129);
+        due(sixteen + " proof", 2, 129);
+        due(sixteen + " yes", 1, 129);
+        due(sixteen + " ;", 1, 129);
+        due(sixteen + " lapses", 1, 129);
+    }
+
+    private static void roomForParentheses() {
+        good("back ((((((1))))));");
+        due("back (((((((1)))))));", 2, 11);
+        due("back 1 + ((((( ( (", 2, 17);
+        good("back (1)+(1)+(1)+(1)+(1)+(1)+(1)+(1);");
+        good("back ((((((1)))))) * ((((((1)))))) if ((((((1)))))) < ((((((2))))));");
+        due("back ((((((1(", 1, 12);
+        due("proof if 1 < ((((((1)+(2)))))) and (((((((", 2, 41);
+    }
+
+    private static void firstFault() {
+        due("lapse 1 yes #", 1, 8);
+        due("back ((((((( #", 2, 11);
+        due("# back (((((((", 1, 0);
+        due(Check.times(17, "lapse 1;") + "#", 2, 128);
+        due(Check.times(16, "lapse 1;") + "#" + "lapse 1;", 1, 128);
+    }
+}
