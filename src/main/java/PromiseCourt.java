@@ -168,10 +168,7 @@ public final class PromiseCourt {
     }
 
     public int person(int father, int mother, int birth) {
-        if (family.size >= MOST_PERSONS || !isDay(birth)) {
-            return NONE;
-        }
-        if (father != NONE && father == mother) {
+        if (!isDay(birth) || father != NONE && father == mother) {
             return NONE;
         }
         if (!family.canBear(father, birth) || !family.canBear(mother, birth)) {
@@ -181,10 +178,7 @@ public final class PromiseCourt {
     }
 
     public int promise(int first, int second, int place, int day, int tense, int condition) {
-        if (promises.size >= MOST_PROMISES || !areTwoPersons(first, second)) {
-            return NONE;
-        }
-        if (!isPlace(place) || !isDay(day) || tense < 0 || tense > 1) {
+        if (!areTwoPersons(first, second) || !isPlace(place) || !isDay(day) || tense < 0 || tense > 1) {
             return NONE;
         }
         if (condition != NONE && !isCondition(condition)) {
@@ -194,10 +188,7 @@ public final class PromiseCourt {
     }
 
     public int gift(int promise, int giver, int value) {
-        if (gifts.size >= MOST_GIFTS || !isPromise(promise)) {
-            return NONE;
-        }
-        if (giver < 0 || giver > 1 || value < 1 || value > MOST_VALUE) {
+        if (!isPromise(promise) || giver < 0 || giver > 1 || value < 1 || value > MOST_VALUE) {
             return NONE;
         }
         return gifts.add(promise, giver, value);

@@ -42,6 +42,10 @@ public final class GiftTest {
     }
 
     private static void firstRuleThatHolds() {
+        PromiseCourt first = court(2, "back 60; bar if 1 == 1; back 70; " + ALL_PROVED);
+        first.promise(0, 1, 0, 50, 1, -1);
+        first.gift(0, 0, 100);
+        CHECK.due("a back rule as the first", first.goes(0, 50, 0), 60);
         back("back 10 if why == 8; back 20 if why == 7; back 30;", 100, 20);
         back("back 10 if why == 8; back 20 if why == 9; back 30; back 40;", 100, 30);
         back("back 10 if why == 8; back 20 if why != 7;", 100, 0);

@@ -15,10 +15,12 @@ public final class JudgementTest {
         deathEnds();
         lapseEnds();
         lapseAndReturn();
+        returnsAsKnown();
         lapseBehindLastDay();
         deathAheadOfLapse();
         voidByRival();
         overRules();
+        overHasItsOwnVars();
         sameTwo();
         oneDay();
         rivalsByEffect();
@@ -181,14 +183,21 @@ public final class JudgementTest {
         court.promise(0, 1, 0, 50, 0, -1);
         court.leave(0, 2, 10);
         court.leave(2, 1, 10);
-        CHECK.due("leave for others", court.barred(0, 2), 0);
+        court.leave(1, 2, 10);
+        court.leave(2, 0, 10);
+        CHECK.due("leave for others", court.barred(0, 4), 0);
         court.leave(1, 0, 51);
-        CHECK.due("leave too late", court.barred(0, 3), 0);
+        CHECK.due("leave too late", court.barred(0, 5), 0);
         court.leave(1, 0, 50);
-        CHECK.due("leave on the day, the other way round", court.barred(0, 4), -1);
+        CHECK.due("leave on the day, the other way round", court.barred(0, 6), -1);
+        CHECK.due("leave that is not yet known", court.barred(0, 5), 0);
+        court.promise(1, 2, 0, 9999, 0, -1);
+        CHECK.due("leave long ago", court.barred(1, 6), -1);
+        CHECK.due("no leave by the last day", court.barred(1, 1), 0);
         PromiseCourt twice = court(2, "bar if leave == 1; " + ALL_PROVED);
         twice.promise(0, 1, 0, 50, 0, -1);
         twice.leave(0, 1, 0);
+        CHECK.due("leave by the first fact", twice.barred(0, 1), 0);
         twice.leave(0, 1, 5);
         CHECK.due("leave twice is 1", twice.barred(0, 2), 0);
     }
@@ -203,6 +212,14 @@ public final class JudgementTest {
         state("death", court, 0, 80, 7);
         state("death", court, 0, 9999, 7);
         force("death", court, 0, new int[] {50, 80, 7, -1, 0, -1});
+        CHECK.due("as known by two", court.force(0, 1, 1), 100);
+        CHECK.due("as known ahead of any death", court.force(0, 0, 1), -1);
+        CHECK.due("as known ahead of any death", court.force(0, 0, 2), 0);
+        PromiseCourt last = court(2, ALL_PROVED);
+        last.promise(0, 1, 0, 9998, 0, -1);
+        last.fate(0, 0, 9999);
+        state("death on the last day", last, 0, 9998, 6);
+        state("death on the last day", last, 0, 9999, 7);
     }
 
     private static void lapseEnds() {
@@ -223,6 +240,11 @@ public final class JudgementTest {
         without.promise(0, 1, 0, 50, 0, -1);
         without.fate(2, 1, 60);
         state("without a lapse rule", without, 0, 9999, 6);
+        PromiseCourt ahead = court(2, "lapse 20;" + ALL_PROVED);
+        ahead.promise(0, 1, 0, 50, 0, -1);
+        ahead.fate(2, 1, 60);
+        state("a lapse rule as the first", ahead, 0, 80, 8);
+        CHECK.due("an absence that is not yet known", ahead.state(0, 80, 0), 6);
         PromiseCourt atOnce = court(2, ALL_PROVED + "lapse 0;");
         atOnce.promise(0, 1, 0, 50, 0, -1);
         atOnce.fate(2, 1, 60);
@@ -253,6 +275,25 @@ public final class JudgementTest {
         court.fate(2, 1, 82);
         state("away behind the return", court, 0, 101, 6);
         state("away behind the return", court, 0, 102, 8);
+    }
+
+    private static void returnsAsKnown() {
+        PromiseCourt court = court(2, ALL_PROVED + "lapse 20;");
+        court.promise(0, 1, 0, 50, 0, -1);
+        court.fate(3, 0, 65);
+        court.fate(2, 0, 60);
+        court.fate(3, 0, 101);
+        court.fate(2, 0, 85);
+        court.fate(3, 0, 90);
+        CHECK.due("a return told first", court.state(0, 9999, 2), 6);
+        CHECK.due("a return told ahead of a later absence", court.state(0, 104, 4), 6);
+        CHECK.due("a return too early told last", court.state(0, 105, 5), 6);
+        PromiseCourt late = court(2, ALL_PROVED + "lapse 20;");
+        late.promise(0, 1, 0, 50, 0, -1);
+        late.fate(2, 0, 60);
+        late.fate(3, 0, 70);
+        CHECK.due("a return that is not yet known", late.state(0, 80, 1), 8);
+        CHECK.due("a return that is known", late.state(0, 80, 2), 6);
     }
 
     private static void lapseBehindLastDay() {
@@ -315,6 +356,20 @@ public final class JudgementTest {
         state("a rival less", court, 4, 90, 6);
         force("broken by the first of both", court, 2, new int[] {80, 90, 9, 4, 1, -1});
         force("ended by death ahead", court, 3, new int[] {80, 85, 7, -1, 0, -1});
+    }
+
+    /** What the bars were judged by is 0 for the over RULES. */
+    private static void overHasItsOwnVars() {
+        PromiseCourt court = court(3, "proof if fame == 1; bar if 5 < degree * 0;"
+            + "over if degree + vow + leave + age + fame + yes + no + kin + why == 0;");
+        court.promise(0, 1, 0, 5000, 0, -1);
+        court.promise(0, 2, 0, 6000, 0, -1);
+        court.fame(0);
+        court.fame(1);
+        court.fate(1, 2, 10);
+        court.leave(0, 2, 10);
+        state("over by none of the others", court, 1, 6000, 6);
+        state("over by none of the others", court, 0, 6000, 9);
     }
 
     private static void sameTwo() {

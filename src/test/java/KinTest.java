@@ -80,6 +80,20 @@ public final class KinTest {
         CHECK.due("both and four", deep.gaps(4), 8);
         CHECK.due("all of fourteen, some twice", deep.gaps(6), 0);
         CHECK.due("a father's line, no fourth rank", deep.gaps(7), 7);
+        PromiseCourt lines = new PromiseCourt();
+        lines.person(-1, -1, 0);
+        for (int i = 1; i < 5; i++) {
+            lines.person(i - 1, -1, i);
+        }
+        for (int i = 5; i < 9; i++) {
+            lines.person(-1, i == 5 ? 0 : i - 1, i);
+        }
+        lines.person(2, 6, 20);
+        CHECK.due("fathers alone", lines.gaps(4), 11);
+        CHECK.due("two fathers alone", lines.gaps(2), 12);
+        CHECK.due("mothers alone", lines.gaps(8), 11);
+        CHECK.due("two mothers alone", lines.gaps(6), 12);
+        CHECK.due("a line on each side", lines.gaps(9), 8);
         CHECK.due("nobody -1", deep.gaps(-1), -1);
         CHECK.due("nobody 8", deep.gaps(8), -1);
         CHECK.due("nobody greatest", deep.gaps(Integer.MAX_VALUE), -1);

@@ -16,6 +16,8 @@ public final class LawTextTest {
         roomForRules();
         roomForParentheses();
         firstFault();
+        bytesTakenBack();
+        textAfterFault();
         CHECK.finish();
     }
 
@@ -120,6 +122,9 @@ public final class LawTextTest {
         due("proof if abcdefghi < 2;", 1, 9);
         due("proof if yesyesyesyes < 2;", 1, 9);
         due("Proof if 1 < 2;", 1, 0);
+        due("proofz if 1 < 2;", 1, 0);
+        due("xroof if 1 < 2;", 1, 0);
+        due("proo if 1 < 2;", 1, 0);
         due("proof if 1 = 2;", 1, 11);
         due("proof if 1 ! 2;", 1, 11);
         due("proof if 1 === 2;", 1, 13);
@@ -238,6 +243,32 @@ public final class LawTextTest {
         good("back ((((((1)))))) * ((((((1)))))) if ((((((1)))))) < ((((((2))))));");
         due("back ((((((1(", 1, 12);
         due("proof if 1 < ((((((1)+(2)))))) and (((((((", 2, 41);
+    }
+
+    /** Bytes that went from the tape are no part of a token at its end. */
+    private static void bytesTakenBack() {
+        String[] texts = {"back 1;", "lapse 12345", "proof if 1 <=", "proof if 1 =="};
+        int[] gone = {5, 1, 1, 1};
+        int[] places = {0, 10, 12, 11};
+        for (int i = 0; i < texts.length; i++) {
+            PromiseCourt court = new PromiseCourt();
+            Check.feed(court, texts[i]);
+            court.back(gone[i]);
+            CHECK.due("the rest of " + texts[i], court.read(0, 0), 1);
+            CHECK.due("place in the rest of " + texts[i], court.place(), places[i]);
+        }
+        due(Check.times(1996, " ") + "back", 1, 2000);
+        due(Check.times(1991, " ") + "lapse 123", 1, 2000);
+        due(Check.times(1988, " ") + "proof if 1 <", 1, 2000);
+    }
+
+    private static void textAfterFault() {
+        PromiseCourt court = new PromiseCourt();
+        CHECK.due("two open (", Check.read(court, "back 1; back 1; back ((1", 0, 0), 1);
+        CHECK.due("sixteen rules after it", Check.read(court, Check.times(16, "back ((((((1)))))); "), 0, 0), 0);
+        CHECK.due("a right side", Check.read(court, "proof if 1 < 2", 0, 0), 1);
+        CHECK.due("a left side after it", Check.read(court, "proof if 1;", 0, 0), 1);
+        CHECK.due("place", court.place(), 10);
     }
 
     private static void firstFault() {
