@@ -11,6 +11,14 @@ final class Check {
         }
     }
 
+    /** A court with so many persons, born on day 0, and one law at place 0. */
+    PromiseCourt court(int persons, String law) {
+        PromiseCourt court = new PromiseCourt();
+        strangers(court, persons);
+        due("read of " + law, read(court, law, 0, 0), 0);
+        return court;
+    }
+
     void finish() {
         System.out.println(asked + " answers, " + wrong + " wrong");
         if (wrong != 0) {

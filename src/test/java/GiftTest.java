@@ -15,16 +15,9 @@ public final class GiftTest {
         CHECK.finish();
     }
 
-    private static PromiseCourt court(int persons, String law) {
-        PromiseCourt court = new PromiseCourt();
-        Check.strangers(court, persons);
-        CHECK.due("read of " + law, Check.read(court, law, 0, 0), 0);
-        return court;
-    }
-
     /** How much goes back of a gift of so much for a promise of tense 1 that ended by death after 30 days. */
     private static void back(String rules, int value, int want) {
-        PromiseCourt court = court(2, ALL_PROVED + rules);
+        PromiseCourt court = CHECK.court(2, ALL_PROVED + rules);
         court.promise(0, 1, 0, 50, 1, -1);
         court.gift(0, 0, value);
         court.fate(0, 1, 80);
@@ -42,7 +35,7 @@ public final class GiftTest {
     }
 
     private static void firstRuleThatHolds() {
-        PromiseCourt first = court(2, "back 60; bar if 1 == 1; back 70; " + ALL_PROVED);
+        PromiseCourt first = CHECK.court(2, "back 60; bar if 1 == 1; back 70; " + ALL_PROVED);
         first.promise(0, 1, 0, 50, 1, -1);
         first.gift(0, 0, 100);
         CHECK.due("a back rule as the first", first.goes(0, 50, 0), 60);
@@ -62,7 +55,7 @@ public final class GiftTest {
     }
 
     private static void whyByState() {
-        PromiseCourt court = court(4, ALL_PROVED + "bar if tense == 1; lapse 5; back why * 8 + days;");
+        PromiseCourt court = CHECK.court(4, ALL_PROVED + "bar if tense == 1; lapse 5; back why * 8 + days;");
         court.promise(0, 1, 0, 50, 0, 0);
         court.promise(0, 1, 0, 50, 1, -1);
         court.promise(2, 3, 0, 50, 0, -1);
@@ -84,14 +77,14 @@ public final class GiftTest {
         CHECK.due("lapsed, long behind", court.goes(2, 9999, 2), 64 + 14);
         court.fate(0, 2, 62);
         CHECK.due("dead", court.goes(2, 62, 3), 56 + 12);
-        PromiseCourt unproved = court(2, "back 100;");
+        PromiseCourt unproved = CHECK.court(2, "back 100;");
         unproved.promise(0, 1, 0, 50, 0, -1);
         unproved.gift(0, 0, 100);
         CHECK.due("unproved", unproved.goes(0, 9999, 0), 0);
     }
 
     private static void brokenByWhom() {
-        PromiseCourt court = court(4, ALL_PROVED + "over if 1 == 1; back 1 if why == 9; back 2 if why == 10; back 3 if why == 11;");
+        PromiseCourt court = CHECK.court(4, ALL_PROVED + "over if 1 == 1; back 1 if why == 9; back 2 if why == 10; back 3 if why == 11;");
         court.promise(0, 1, 0, 50, 0, -1);
         court.promise(1, 0, 0, 60, 0, -1);
         court.promise(1, 2, 0, 70, 0, -1);
@@ -112,12 +105,12 @@ public final class GiftTest {
         back("back days;", 100, 30);
         back("back tense * 7;", 100, 7);
         back("back yes + no + kin + fame + age + degree + vow + leave + old + 4;", 100, 4);
-        PromiseCourt court = court(3, ALL_PROVED + "over if days == 0; back days + 5; back 1;");
+        PromiseCourt court = CHECK.court(3, ALL_PROVED + "over if days == 0; back days + 5; back 1;");
         court.promise(0, 1, 0, 50, 0, -1);
         court.promise(0, 2, 0, 50, 0, -1);
         court.gift(0, 0, 100);
         CHECK.due("ended on its effect", court.goes(0, 50, 0), 5);
-        PromiseCourt late = court(2, ALL_PROVED + "back days;");
+        PromiseCourt late = CHECK.court(2, ALL_PROVED + "back days;");
         late.promise(0, 1, 0, 50, 0, 3);
         late.gift(0, 0, 100);
         late.comes(3, 60, true);
@@ -126,7 +119,7 @@ public final class GiftTest {
     }
 
     private static void owing() {
-        PromiseCourt court = court(4, ALL_PROVED + "back 50;");
+        PromiseCourt court = CHECK.court(4, ALL_PROVED + "back 50;");
         court.promise(0, 1, 0, 50, 0, -1);
         court.promise(2, 0, 0, 40, 0, 1);
         court.promise(2, 3, 0, 30, 0, -1);
@@ -153,7 +146,7 @@ public final class GiftTest {
     }
 
     private static void wrongInputs() {
-        PromiseCourt court = court(2, ALL_PROVED + "bar if 1 == 1; back 100;");
+        PromiseCourt court = CHECK.court(2, ALL_PROVED + "bar if 1 == 1; back 100;");
         court.promise(0, 1, 0, 0, 0, -1);
         court.gift(0, 0, 9);
         court.fame(0);

@@ -33,14 +33,6 @@ public final class JudgementTest {
         CHECK.finish();
     }
 
-    /** A court with so many persons, born on day 0, and one law at place 0. */
-    private static PromiseCourt court(int persons, String law) {
-        PromiseCourt court = new PromiseCourt();
-        Check.strangers(court, persons);
-        CHECK.due("read of " + law, Check.read(court, law, 0, 0), 0);
-        return court;
-    }
-
     private static void state(String what, PromiseCourt court, int promise, int day, int want) {
         CHECK.due(what + ": state of " + promise + " on " + day, court.state(promise, day, court.count(3)), want);
     }
@@ -57,7 +49,7 @@ public final class JudgementTest {
     }
 
     private static void unproved() {
-        PromiseCourt court = court(3, "proof if 0 < fame;");
+        PromiseCourt court = CHECK.court(3, "proof if 0 < fame;");
         court.promise(0, 1, 0, 50, 0, -1);
         court.promise(0, 2, 0, 50, 0, 1);
         court.comes(1, 20, false);
@@ -72,7 +64,7 @@ public final class JudgementTest {
     }
 
     private static void withoutCondition() {
-        PromiseCourt court = court(2, ALL_PROVED);
+        PromiseCourt court = CHECK.court(2, ALL_PROVED);
         court.promise(0, 1, 0, 50, 0, -1);
         state("plain", court, 0, 0, 1);
         state("plain", court, 0, 49, 1);
@@ -82,7 +74,7 @@ public final class JudgementTest {
     }
 
     private static void withCondition() {
-        PromiseCourt court = court(2, ALL_PROVED);
+        PromiseCourt court = CHECK.court(2, ALL_PROVED);
         court.promise(0, 1, 0, 50, 0, 3);
         state("open", court, 0, 0, 2);
         state("open", court, 0, 9999, 2);
@@ -102,7 +94,7 @@ public final class JudgementTest {
     }
 
     private static void conditionFacts() {
-        PromiseCourt court = court(2, ALL_PROVED);
+        PromiseCourt court = CHECK.court(2, ALL_PROVED);
         court.promise(0, 1, 0, 50, 0, 0);
         court.comes(0, 40, true);
         court.comes(0, 40, false);
@@ -116,7 +108,7 @@ public final class JudgementTest {
     }
 
     private static void barsByDeath() {
-        PromiseCourt court = court(3, "bar if 1 == 1; " + ALL_PROVED);
+        PromiseCourt court = CHECK.court(3, "bar if 1 == 1; " + ALL_PROVED);
         court.promise(0, 1, 0, 50, 0, -1);
         court.promise(2, 1, 0, 50, 0, 0);
         CHECK.due("a rule", court.barred(0, 0), 0);
@@ -140,7 +132,7 @@ public final class JudgementTest {
     }
 
     private static void barsByRules() {
-        PromiseCourt court = court(2, "proof if 1 == 1; bar if vow == 2; bar if vow == 1 and tense == 1; bar if degree < 2;");
+        PromiseCourt court = CHECK.court(2, "proof if 1 == 1; bar if vow == 2; bar if vow == 1 and tense == 1; bar if degree < 2;");
         court.person(0, 1, 10);
         court.promise(0, 1, 0, 50, 0, -1);
         court.promise(0, 1, 0, 60, 1, -1);
@@ -161,7 +153,7 @@ public final class JudgementTest {
     }
 
     private static void age() {
-        PromiseCourt court = court(1, "bar if age == 0; bar if age == 1; bar if age == 2; " + ALL_PROVED);
+        PromiseCourt court = CHECK.court(1, "bar if age == 0; bar if age == 1; bar if age == 2; " + ALL_PROVED);
         court.person(-1, -1, 1000);
         court.promise(0, 1, 0, 900, 0, -1);
         court.promise(1, 0, 0, 1364, 0, -1);
@@ -179,7 +171,7 @@ public final class JudgementTest {
     }
 
     private static void leaveGiven() {
-        PromiseCourt court = court(3, "bar if leave == 0; " + ALL_PROVED);
+        PromiseCourt court = CHECK.court(3, "bar if leave == 0; " + ALL_PROVED);
         court.promise(0, 1, 0, 50, 0, -1);
         court.leave(0, 2, 10);
         court.leave(2, 1, 10);
@@ -194,7 +186,7 @@ public final class JudgementTest {
         court.promise(1, 2, 0, 9999, 0, -1);
         CHECK.due("leave long ago", court.barred(1, 6), -1);
         CHECK.due("no leave by the last day", court.barred(1, 1), 0);
-        PromiseCourt twice = court(2, "bar if leave == 1; " + ALL_PROVED);
+        PromiseCourt twice = CHECK.court(2, "bar if leave == 1; " + ALL_PROVED);
         twice.promise(0, 1, 0, 50, 0, -1);
         twice.leave(0, 1, 0);
         CHECK.due("leave by the first fact", twice.barred(0, 1), 0);
@@ -203,7 +195,7 @@ public final class JudgementTest {
     }
 
     private static void deathEnds() {
-        PromiseCourt court = court(2, ALL_PROVED);
+        PromiseCourt court = CHECK.court(2, ALL_PROVED);
         court.promise(0, 1, 0, 50, 0, -1);
         court.fate(0, 1, 100);
         court.fate(0, 0, 80);
@@ -215,7 +207,7 @@ public final class JudgementTest {
         CHECK.due("as known by two", court.force(0, 1, 1), 100);
         CHECK.due("as known ahead of any death", court.force(0, 0, 1), -1);
         CHECK.due("as known ahead of any death", court.force(0, 0, 2), 0);
-        PromiseCourt last = court(2, ALL_PROVED);
+        PromiseCourt last = CHECK.court(2, ALL_PROVED);
         last.promise(0, 1, 0, 9998, 0, -1);
         last.fate(0, 0, 9999);
         state("death on the last day", last, 0, 9998, 6);
@@ -223,7 +215,7 @@ public final class JudgementTest {
     }
 
     private static void lapseEnds() {
-        PromiseCourt court = court(2, ALL_PROVED + "lapse 20; lapse 5;");
+        PromiseCourt court = CHECK.court(2, ALL_PROVED + "lapse 20; lapse 5;");
         court.promise(0, 1, 0, 50, 0, -1);
         court.fate(2, 1, 60);
         state("lapse", court, 0, 79, 6);
@@ -236,16 +228,16 @@ public final class JudgementTest {
         state("lapsed on effect", court, 0, 49, 1);
         state("lapsed on effect", court, 0, 50, 8);
         force("lapsed on effect", court, 0, never());
-        PromiseCourt without = court(2, ALL_PROVED);
+        PromiseCourt without = CHECK.court(2, ALL_PROVED);
         without.promise(0, 1, 0, 50, 0, -1);
         without.fate(2, 1, 60);
         state("without a lapse rule", without, 0, 9999, 6);
-        PromiseCourt ahead = court(2, "lapse 20;" + ALL_PROVED);
+        PromiseCourt ahead = CHECK.court(2, "lapse 20;" + ALL_PROVED);
         ahead.promise(0, 1, 0, 50, 0, -1);
         ahead.fate(2, 1, 60);
         state("a lapse rule as the first", ahead, 0, 80, 8);
         CHECK.due("an absence that is not yet known", ahead.state(0, 80, 0), 6);
-        PromiseCourt atOnce = court(2, ALL_PROVED + "lapse 0;");
+        PromiseCourt atOnce = CHECK.court(2, ALL_PROVED + "lapse 0;");
         atOnce.promise(0, 1, 0, 50, 0, -1);
         atOnce.fate(2, 1, 60);
         state("lapse 0", atOnce, 0, 59, 6);
@@ -253,7 +245,7 @@ public final class JudgementTest {
     }
 
     private static void lapseAndReturn() {
-        PromiseCourt court = court(3, ALL_PROVED + "lapse 20;");
+        PromiseCourt court = CHECK.court(3, ALL_PROVED + "lapse 20;");
         court.promise(0, 1, 0, 50, 0, -1);
         court.fate(2, 1, 60);
         court.fate(3, 0, 70);
@@ -278,7 +270,7 @@ public final class JudgementTest {
     }
 
     private static void returnsAsKnown() {
-        PromiseCourt court = court(2, ALL_PROVED + "lapse 20;");
+        PromiseCourt court = CHECK.court(2, ALL_PROVED + "lapse 20;");
         court.promise(0, 1, 0, 50, 0, -1);
         court.fate(3, 0, 65);
         court.fate(2, 0, 60);
@@ -288,7 +280,7 @@ public final class JudgementTest {
         CHECK.due("a return told first", court.state(0, 9999, 2), 6);
         CHECK.due("a return told ahead of a later absence", court.state(0, 104, 4), 6);
         CHECK.due("a return too early told last", court.state(0, 105, 5), 6);
-        PromiseCourt late = court(2, ALL_PROVED + "lapse 20;");
+        PromiseCourt late = CHECK.court(2, ALL_PROVED + "lapse 20;");
         late.promise(0, 1, 0, 50, 0, -1);
         late.fate(2, 0, 60);
         late.fate(3, 0, 70);
@@ -297,7 +289,7 @@ public final class JudgementTest {
     }
 
     private static void lapseBehindLastDay() {
-        PromiseCourt court = court(2, ALL_PROVED + "lapse 9999;");
+        PromiseCourt court = CHECK.court(2, ALL_PROVED + "lapse 9999;");
         court.promise(0, 1, 0, 50, 0, -1);
         court.fate(2, 1, 1);
         state("a lapse behind the last day", court, 0, 9999, 6);
@@ -309,7 +301,7 @@ public final class JudgementTest {
     }
 
     private static void deathAheadOfLapse() {
-        PromiseCourt court = court(2, ALL_PROVED + "lapse 20;");
+        PromiseCourt court = CHECK.court(2, ALL_PROVED + "lapse 20;");
         court.promise(0, 1, 0, 50, 0, -1);
         court.fate(2, 1, 60);
         court.fate(0, 1, 81);
@@ -319,7 +311,7 @@ public final class JudgementTest {
     }
 
     private static void voidByRival() {
-        PromiseCourt court = court(4, ALL_PROVED);
+        PromiseCourt court = CHECK.court(4, ALL_PROVED);
         court.promise(0, 1, 0, 60, 0, -1);
         court.promise(2, 0, 0, 50, 0, -1);
         court.promise(2, 3, 0, 55, 0, -1);
@@ -335,7 +327,7 @@ public final class JudgementTest {
     }
 
     private static void overRules() {
-        PromiseCourt court = court(4, ALL_PROVED + "over if old == 0 and tense == 1 and days == 30;");
+        PromiseCourt court = CHECK.court(4, ALL_PROVED + "over if old == 0 and tense == 1 and days == 30;");
         Check.read(court, ALL_PROVED + "over if old == 1 and tense == 0;", 1, 0);
         court.promise(0, 1, 0, 50, 0, -1);
         court.promise(2, 0, 0, 79, 1, -1);
@@ -360,7 +352,7 @@ public final class JudgementTest {
 
     /** What the bars were judged by is 0 for the over RULES. */
     private static void overHasItsOwnVars() {
-        PromiseCourt court = court(3, "proof if fame == 1; bar if 5 < degree * 0;"
+        PromiseCourt court = CHECK.court(3, "proof if fame == 1; bar if 5 < degree * 0;"
             + "over if degree + vow + leave + age + fame + yes + no + kin + why == 0;");
         court.promise(0, 1, 0, 5000, 0, -1);
         court.promise(0, 2, 0, 6000, 0, -1);
@@ -373,7 +365,7 @@ public final class JudgementTest {
     }
 
     private static void sameTwo() {
-        PromiseCourt court = court(3, ALL_PROVED);
+        PromiseCourt court = CHECK.court(3, ALL_PROVED);
         court.promise(0, 1, 0, 50, 1, -1);
         court.promise(1, 0, 0, 60, 0, -1);
         court.promise(0, 1, 0, 70, 0, -1);
@@ -385,7 +377,7 @@ public final class JudgementTest {
     }
 
     private static void oneDay() {
-        PromiseCourt court = court(3, ALL_PROVED + "over if days == 0;");
+        PromiseCourt court = CHECK.court(3, ALL_PROVED + "over if days == 0;");
         court.promise(0, 1, 0, 50, 0, -1);
         court.promise(2, 1, 0, 50, 0, -1);
         state("of one day by numbers", court, 0, 50, 9);
@@ -394,7 +386,7 @@ public final class JudgementTest {
         court.promise(2, 0, 0, 50, 0, -1);
         state("ended ones are no rivals", court, 1, 50, 9);
         state("the third", court, 2, 50, 6);
-        PromiseCourt strict = court(3, ALL_PROVED);
+        PromiseCourt strict = CHECK.court(3, ALL_PROVED);
         strict.promise(0, 1, 0, 50, 0, -1);
         strict.promise(2, 1, 0, 50, 0, -1);
         state("the lesser number stands", strict, 0, 50, 6);
@@ -403,7 +395,7 @@ public final class JudgementTest {
 
     /** Days are those of EFFECT, not of the words. */
     private static void rivalsByEffect() {
-        PromiseCourt court = court(3, ALL_PROVED + "over if days == 20;");
+        PromiseCourt court = CHECK.court(3, ALL_PROVED + "over if days == 20;");
         court.promise(0, 1, 0, 10, 0, 1);
         court.promise(0, 2, 0, 20, 0, -1);
         state("while it is open", court, 1, 20, 6);
@@ -417,7 +409,7 @@ public final class JudgementTest {
 
     /** One that lapses on its EFFECT was never in force, but its rivals have ended by it. */
     private static void neverInForce() {
-        PromiseCourt court = court(3, ALL_PROVED + "over if 1 == 1;");
+        PromiseCourt court = CHECK.court(3, ALL_PROVED + "over if 1 == 1;");
         Check.read(court, ALL_PROVED + "over if 1 == 1; lapse 5;", 1, 0);
         court.promise(0, 1, 0, 50, 0, -1);
         court.promise(2, 1, 1, 60, 0, -1);
@@ -430,7 +422,7 @@ public final class JudgementTest {
     }
 
     private static void nothingEndsByVoid() {
-        PromiseCourt court = court(4, ALL_PROVED + "over if old == 0;");
+        PromiseCourt court = CHECK.court(4, ALL_PROVED + "over if old == 0;");
         court.promise(0, 1, 0, 50, 0, -1);
         court.promise(2, 3, 0, 50, 1, -1);
         court.promise(1, 2, 0, 60, 0, -1);
@@ -441,7 +433,7 @@ public final class JudgementTest {
         Check.read(court, ALL_PROVED + "over if 1 == 1;", 0, 60);
         force("both yield", court, 0, new int[] {50, 60, 9, 2, 2, -1});
         force("both yield", court, 1, new int[] {50, 60, 9, 2, 1, -1});
-        PromiseCourt same = court(3, ALL_PROVED);
+        PromiseCourt same = CHECK.court(3, ALL_PROVED);
         same.promise(0, 1, 0, 50, 0, -1);
         same.promise(1, 2, 1, 50, 0, -1);
         Check.read(same, ALL_PROVED + "over if 1 == 1;", 1, 0);
@@ -451,14 +443,14 @@ public final class JudgementTest {
     }
 
     private static void endedAheadOfEffect() {
-        PromiseCourt court = court(3, ALL_PROVED + "lapse 10;");
+        PromiseCourt court = CHECK.court(3, ALL_PROVED + "lapse 10;");
         court.promise(0, 1, 0, 50, 0, -1);
         court.promise(0, 2, 0, 70, 0, -1);
         court.fate(2, 1, 61);
         state("a day too late", court, 1, 70, 5);
         court.fate(2, 1, 60);
         state("lapsed on that day", court, 1, 70, 6);
-        PromiseCourt death = court(3, ALL_PROVED);
+        PromiseCourt death = CHECK.court(3, ALL_PROVED);
         death.promise(0, 1, 0, 50, 0, -1);
         death.promise(0, 2, 0, 70, 0, -1);
         death.fate(0, 1, 71);
@@ -468,7 +460,7 @@ public final class JudgementTest {
     }
 
     private static void boundByLeast() {
-        PromiseCourt court = court(4, ALL_PROVED);
+        PromiseCourt court = CHECK.court(4, ALL_PROVED);
         court.promise(2, 3, 0, 10, 0, -1);
         court.promise(1, 0, 0, 50, 0, -1);
         CHECK.due("ahead of it", court.bound(0, 49, 0), -1);
@@ -487,7 +479,7 @@ public final class JudgementTest {
     }
 
     private static void changedStates() {
-        PromiseCourt court = court(4, ALL_PROVED);
+        PromiseCourt court = CHECK.court(4, ALL_PROVED);
         court.promise(0, 1, 0, 50, 0, -1);
         court.promise(2, 3, 0, 50, 0, -1);
         court.promise(2, 1, 0, 80, 0, -1);
@@ -510,7 +502,7 @@ public final class JudgementTest {
     }
 
     private static void wrongInputs() {
-        PromiseCourt court = court(2, ALL_PROVED);
+        PromiseCourt court = CHECK.court(2, ALL_PROVED);
         court.promise(0, 1, 0, 0, 0, -1);
         court.fame(0);
         CHECK.due("state", court.state(0, 0, 1), 6);
