@@ -5,41 +5,63 @@ import java.lang.reflect.Modifier;
 import java.util.Set;
 import java.util.TreeSet;
 
-/** The public face, and promise 1: a new object has nobody and nothing. */
+/** The public face: each constant, constructor and method of the document, and no other. */
 public final class FaceTest {
-    private static final Set<String> NAMES = Set.of("feed", "back", "read", "place", "person", "promise", "gift", "says",
-        "fame", "comes", "fate", "leave", "degree", "gaps", "law", "proved", "barred", "state", "force", "bound", "goes",
-        "owes", "changed", "count");
+    // Each method with its parameters: i an int, b a boolean.
+    private static final Set<String> METHODS = Set.of("feed iiiii", "back i", "read ii", "place ", "person iii", "promise iiiiii",
+        "gift iii", "says iib", "fame i", "comes iib", "fate iii", "leave iii", "degree ii", "gaps i", "law i", "proved ii",
+        "barred ii", "state iii", "force iii", "bound iii", "goes iii", "owes iii", "changed iii", "count i");
+    private static final Set<String> NAMES = names();
     private static final Check CHECK = new Check();
 
+    private static final Class<?> FACE = PromiseCourt.class;
+
     public static void main(String[] args) {
-        face();
-        newObject();
-        objectsApart();
+        constant();
+        methods();
+        constructor();
+        classesInside();
         CHECK.finish();
     }
 
-    private static void face() {
-        Class<?> face = PromiseCourt.class;
-        CHECK.due("public final", face.getModifiers(), Modifier.PUBLIC | Modifier.FINAL);
+    private static void constant() {
+        CHECK.due("public final", FACE.getModifiers(), Modifier.PUBLIC | Modifier.FINAL);
         CHECK.due("NONE", PromiseCourt.NONE, -1);
-        Set<String> seen = new TreeSet<>();
-        for (Method method : face.getDeclaredMethods()) {
-            boolean listed = NAMES.contains(method.getName());
-            CHECK.due(method + " is of the face or private", Modifier.isPrivate(method.getModifiers()) ? 0 : 1, listed ? 1 : 0);
-            if (listed && method.getReturnType() == int.class) {
-                seen.add(method.getName());
+        int constant = Modifier.PUBLIC | Modifier.STATIC | Modifier.FINAL;
+        for (Field field : FACE.getDeclaredFields()) {
+            boolean none = field.getName().equals("NONE");
+            CHECK.due(field + " is open", Modifier.isPrivate(field.getModifiers()) ? 0 : 1, none ? 1 : 0);
+            if (none) {
+                CHECK.due("NONE is an int", field.getType() == int.class ? 1 : 0, 1);
+                CHECK.due("NONE is a constant", field.getModifiers(), constant);
             }
         }
-        CHECK.due("methods of the face", seen.size(), NAMES.size());
-        for (Field field : face.getDeclaredFields()) {
-            boolean open = !Modifier.isPrivate(field.getModifiers());
-            CHECK.due(field + " is open", open ? 1 : 0, field.getName().equals("NONE") ? 1 : 0);
+    }
+
+    private static void methods() {
+        Set<String> open = new TreeSet<>();
+        for (Method method : FACE.getDeclaredMethods()) {
+            if (Modifier.isPrivate(method.getModifiers())) {
+                CHECK.due(method + " bears a name of the face", NAMES.contains(method.getName()) ? 1 : 0, 0);
+            } else {
+                open.add(describe(method));
+                CHECK.due(method + " is public, and that alone", method.getModifiers(), Modifier.PUBLIC);
+                CHECK.due(method + " answers an int", method.getReturnType() == int.class ? 1 : 0, 1);
+            }
         }
-        for (Constructor<?> constructor : face.getDeclaredConstructors()) {
+        CHECK.due("the open methods " + open, open.equals(METHODS) ? 1 : 0, 1);
+    }
+
+    private static void constructor() {
+        CHECK.due("constructors", FACE.getDeclaredConstructors().length, 1);
+        for (Constructor<?> constructor : FACE.getDeclaredConstructors()) {
             CHECK.due("constructor's parameters", constructor.getParameterCount(), 0);
+            CHECK.due("constructor is public", constructor.getModifiers(), Modifier.PUBLIC);
         }
-        for (Class<?> inside : face.getDeclaredClasses()) {
+    }
+
+    private static void classesInside() {
+        for (Class<?> inside : FACE.getDeclaredClasses()) {
             CHECK.due(inside + " is static", Modifier.isStatic(inside.getModifiers()) ? 1 : 0, 1);
             for (Method method : inside.getDeclaredMethods()) {
                 CHECK.due(method + " bears a name of the face", NAMES.contains(method.getName()) ? 1 : 0, 0);
@@ -47,33 +69,19 @@ public final class FaceTest {
         }
     }
 
-    private static void newObject() {
-        PromiseCourt court = new PromiseCourt();
-        for (int what = 0; what < 6; what++) {
-            CHECK.due("new: count(" + what + ")", court.count(what), 0);
+    private static String describe(Method method) {
+        StringBuilder made = new StringBuilder(method.getName()).append(' ');
+        for (Class<?> type : method.getParameterTypes()) {
+            made.append(type == int.class ? 'i' : type == boolean.class ? 'b' : '?');
         }
-        CHECK.due("new: place", court.place(), -1);
-        CHECK.due("new: back(0)", court.back(0), 0);
-        CHECK.due("new: back(1)", court.back(1), -1);
-        CHECK.due("new: degree", court.degree(0, 0), -1);
-        CHECK.due("new: gaps", court.gaps(0), -1);
-        CHECK.due("new: law", court.law(0), -1);
-        CHECK.due("new: proved", court.proved(0, 0), -1);
-        CHECK.due("new: barred", court.barred(0, 0), -1);
-        CHECK.due("new: state", court.state(0, 0, 0), -1);
-        CHECK.due("new: force", court.force(0, 0, 0), -3);
-        CHECK.due("new: bound", court.bound(0, 0, 0), -1);
-        CHECK.due("new: goes", court.goes(0, 0, 0), -1);
-        CHECK.due("new: owes", court.owes(0, 0, 0), 0);
-        CHECK.due("new: changed", court.changed(0, 0, 0), -1);
+        return made.toString();
     }
 
-    private static void objectsApart() {
-        PromiseCourt one = new PromiseCourt();
-        PromiseCourt other = new PromiseCourt();
-        one.person(-1, -1, 0);
-        one.feed(1, 2, 3, 4, 5);
-        CHECK.due("another object's persons", other.count(0), 0);
-        CHECK.due("another object's tape", other.count(5), 0);
+    private static Set<String> names() {
+        Set<String> names = new TreeSet<>();
+        for (String method : METHODS) {
+            names.add(method.substring(0, method.indexOf(' ')));
+        }
+        return names;
     }
 }

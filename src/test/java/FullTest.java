@@ -3,34 +3,11 @@ public final class FullTest {
     private static final Check CHECK = new Check();
 
     public static void main(String[] args) {
-        PromiseCourt court = full();
+        PromiseCourt court = Courts.full();
         counts(court);
         questions(court);
         lastOnes(court);
         CHECK.finish();
-    }
-
-    /** Persons 0 to 11, promises of 2p and 2p + 1 twice over, gifts, laws at all places, 200 facts. */
-    private static PromiseCourt full() {
-        PromiseCourt court = new PromiseCourt();
-        Check.strangers(court, 12);
-        for (int i = 0; i < 8; i++) {
-            Check.read(court, "proof if 0 < yes; back 10;", i % 4, i);
-        }
-        for (int p = 0; p < 10; p++) {
-            court.promise(2 * (p % 5), 2 * (p % 5) + 1, p % 4, 100 + p, 0, -1);
-        }
-        for (int g = 0; g < 20; g++) {
-            court.gift(g % 10, g / 10, 100 + g);
-        }
-        for (int f = 0; f < 189; f++) {
-            court.says(100 + f % 20, f % 9, true);
-        }
-        for (int p = 0; p < 10; p++) {
-            court.says(119, p, true);
-        }
-        court.fate(0, 8, 500);
-        return court;
     }
 
     private static void counts(PromiseCourt court) {

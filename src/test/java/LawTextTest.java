@@ -1,23 +1,14 @@
-/** Promises 2 to 5: the tape, TOKENS, RULES and FAULTS. */
+/** Promises 4 and 5: TOKENS, RULES and where a text with a FAULT stops. */
 public final class LawTextTest {
     private static final Check CHECK = new Check();
 
     public static void main(String[] args) {
-        feedAndBack();
         bytesInOrder();
-        refusedReads();
-        eightLaws();
-        latestPlace();
         tokens();
         rules();
         goesOn();
         textEnds();
-        roomForTokens();
-        roomForRules();
-        roomForParentheses();
-        firstFault();
         bytesTakenBack();
-        textAfterFault();
         CHECK.finish();
     }
 
@@ -34,27 +25,6 @@ public final class LawTextTest {
         due(text, 0, -1);
     }
 
-    private static void feedAndBack() {
-        PromiseCourt court = new PromiseCourt();
-        for (int i = 1; i <= 99; i++) {
-            CHECK.due("feed " + i, court.feed(i, i, i, i, i), 20 * i);
-        }
-        CHECK.due("back(-1)", court.back(-1), -1);
-        CHECK.due("back(least)", court.back(Integer.MIN_VALUE), -1);
-        CHECK.due("back(1981)", court.back(1981), -1);
-        CHECK.due("back(greatest)", court.back(Integer.MAX_VALUE), -1);
-        CHECK.due("back(0)", court.back(0), 1980);
-        CHECK.due("feed to 2000", court.feed(0, 0, 0, 0, 0), 2000);
-        CHECK.due("feed over 2000", court.feed(0, 0, 0, 0, 0), -1);
-        CHECK.due("count after a refused feed", court.count(5), 2000);
-        CHECK.due("back(19)", court.back(19), 1981);
-        CHECK.due("feed at 1981", court.feed(0, 0, 0, 0, 0), -1);
-        CHECK.due("back(1)", court.back(1), 1980);
-        CHECK.due("feed at 1980", court.feed(0, 0, 0, 0, 0), 2000);
-        CHECK.due("back(2000)", court.back(2000), 0);
-        CHECK.due("back(1) of an empty tape", court.back(1), -1);
-    }
-
     private static void bytesInOrder() {
         PromiseCourt court = new PromiseCourt();
         CHECK.due("feed", court.feed(0x6c617073, 0x65203132, 0x3b20ff20, 0x20202020, 0x20202020), 20);
@@ -64,48 +34,6 @@ public final class LawTextTest {
         court.back(2);
         CHECK.due("two lapses", court.read(0, 0), 0);
         good(Check.times(124, " \t\n\r            ") + "lapse 1;" + Check.times(8, " "));
-    }
-
-    private static void refusedReads() {
-        PromiseCourt court = new PromiseCourt();
-        Check.feed(court, "lapse;");
-        CHECK.due("read(-1, 0)", court.read(-1, 0), -1);
-        CHECK.due("read(4, 0)", court.read(4, 0), -1);
-        CHECK.due("read(0, -1)", court.read(0, -1), -1);
-        CHECK.due("read(0, 10000)", court.read(0, 10000), -1);
-        CHECK.due("the tape stays", court.count(5), 6);
-        CHECK.due("no place yet", court.place(), -1);
-        CHECK.due("read(3, 9999)", court.read(3, 9999), 1);
-        CHECK.due("the tape is empty", court.count(5), 0);
-        CHECK.due("no law of it", court.count(4), 0);
-        CHECK.due("read(3, 9999) of nothing", court.read(3, 9999), 0);
-        CHECK.due("a law of it", court.count(4), 1);
-    }
-
-    private static void eightLaws() {
-        PromiseCourt court = new PromiseCourt();
-        for (int i = 0; i < 8; i++) {
-            CHECK.due("a text with a fault", Check.read(court, "x", i % 4, i), 1);
-            CHECK.due("law " + i, Check.read(court, "lapse " + i + ";", i % 4, i), 0);
-            CHECK.due("laws", court.count(4), i + 1);
-        }
-        Check.feed(court, "lapse 8");
-        CHECK.due("a ninth law", court.read(0, 0), -1);
-        CHECK.due("the tape stays", court.count(5), 7);
-        CHECK.due("laws", court.count(4), 8);
-        CHECK.due("place of the eighth", court.place(), -1);
-    }
-
-    private static void latestPlace() {
-        PromiseCourt court = new PromiseCourt();
-        Check.read(court, "lapse 1 1;", 0, 0);
-        CHECK.due("place", court.place(), 8);
-        court.read(9, 0);
-        CHECK.due("place after a read that was NONE", court.place(), 8);
-        Check.read(court, "lapse 1;", 0, 0);
-        CHECK.due("place after a good read", court.place(), -1);
-        Check.read(court, "?", 0, 0);
-        CHECK.due("place at the first byte", court.place(), 0);
     }
 
     private static void tokens() {
@@ -206,45 +134,6 @@ public final class LawTextTest {
         due("lapse 1; back" + Check.times(1987, " "), 1, 2000);
     }
 
-    private static void roomForTokens() {
-        // "lapse 1;" and "back 1;" have three TOKENS each, a "+1" has two: 400 in all.
-        String full = "lapse 1;back 1" + Check.times(197, "+1") + ";";
-        int end = full.length();
-        good(full);
-        good(full + "  ");
-        due(full + " lapse 1;", 2, end + 1);
-        due(full + " ;", 1, end + 1);
-        due(full + " yes", 1, end + 1);
-        due(full + " #", 1, end + 1);
-        String open = "back 1" + Check.times(199, "+1");
-        due(open, 1, open.length());
-        due(open + ";", 2, open.length());
-        due(open + " - #", 2, open.length() + 1);
-        due(open + " 1", 1, open.length() + 1);
-        due("lapse 1;back 1" + Check.times(198, "+1") + ";", 2, end);
-    }
-
-    private static void roomForRules() {
-        String sixteen = Check.times(16, "lapse 1;");
-        good(sixteen);
-        due(sixteen + " lapse 1;", 2, 129);
-        due(sixteen + " back;", 2, 129);
-        due(sixteen + " proof", 2, 129);
-        due(sixteen + " yes", 1, 129);
-        due(sixteen + " ;", 1, 129);
-        due(sixteen + " lapses", 1, 129);
-    }
-
-    private static void roomForParentheses() {
-        good("back ((((((1))))));");
-        due("back (((((((1)))))));", 2, 11);
-        due("back 1 + ((((( ( (", 2, 17);
-        good("back (1)+(1)+(1)+(1)+(1)+(1)+(1)+(1);");
-        good("back ((((((1)))))) * ((((((1)))))) if ((((((1)))))) < ((((((2))))));");
-        due("back ((((((1(", 1, 12);
-        due("proof if 1 < ((((((1)+(2)))))) and (((((((", 2, 41);
-    }
-
     /** Bytes that went from the tape are no part of a token at its end. */
     private static void bytesTakenBack() {
         String[] texts = {"back 1;", "lapse 12345", "proof if 1 <=", "proof if 1 =="};
@@ -260,22 +149,5 @@ public final class LawTextTest {
         due(Check.times(1996, " ") + "back", 1, 2000);
         due(Check.times(1991, " ") + "lapse 123", 1, 2000);
         due(Check.times(1988, " ") + "proof if 1 <", 1, 2000);
-    }
-
-    private static void textAfterFault() {
-        PromiseCourt court = new PromiseCourt();
-        CHECK.due("two open (", Check.read(court, "back 1; back 1; back ((1", 0, 0), 1);
-        CHECK.due("sixteen rules after it", Check.read(court, Check.times(16, "back ((((((1)))))); "), 0, 0), 0);
-        CHECK.due("a right side", Check.read(court, "proof if 1 < 2", 0, 0), 1);
-        CHECK.due("a left side after it", Check.read(court, "proof if 1;", 0, 0), 1);
-        CHECK.due("place", court.place(), 10);
-    }
-
-    private static void firstFault() {
-        due("lapse 1 yes #", 1, 8);
-        due("back ((((((( #", 2, 11);
-        due("# back (((((((", 1, 0);
-        due(Check.times(17, "lapse 1;") + "#", 2, 128);
-        due(Check.times(16, "lapse 1;") + "#" + "lapse 1;", 1, 128);
     }
 }

@@ -19,11 +19,14 @@ public final class ModelTest {
         "0", "9999", "12345", "7", ";", ";", "+", "-", "*", "==", "=", "!=", "!", "<", "<=", "(", ")", " ", "\t", "\n",
         "#", "A", "\u00e9", "\u0000", "((((((", "((((((("
     };
+    private static final int LIFE = 512;
     private final Check check = new Check();
     private PromiseCourt court;
     private Model model;
     private long seed;
     private int run;
+    // Those that the court has heard; what it answers behind the 512th is free.
+    private int calls;
 
     private ModelTest(long seed) {
         this.seed = seed;
@@ -109,10 +112,13 @@ public final class ModelTest {
 
     private void readBoth(String text) {
         String fed = text.length() > 2000 ? text.substring(0, 2000) : text;
-        while (model.back(1) != -1) {
-            court.back(1);
+        int feeds = (fed.length() + 19) / 20;
+        if (calls + feeds + 5 > LIFE) {
+            return;
         }
+        court.back(model.tape.length());
         Check.feed(court, fed);
+        calls += feeds + 2;
         model.tape = fed;
         int place = about(0, 2);
         int day = upTo(4) == 0 ? day() : 1000 * upTo(4);
@@ -122,11 +128,13 @@ public final class ModelTest {
     }
 
     private void due(String call, int got, int want) {
+        calls++;
         check.due("run " + run + ": " + call, got, want);
     }
 
     private void renew(int run) {
         this.run = run;
+        calls = 0;
         court = new PromiseCourt();
         model = new Model();
     }
@@ -152,7 +160,7 @@ public final class ModelTest {
         for (int i = 6 + upTo(5); i > 0; i--) {
             tellPromise();
         }
-        for (int i = 0; i < 330; i++) {
+        while (calls < LIFE) {
             int kind = upTo(100);
             if (kind < 4) {
                 tellPromise();
