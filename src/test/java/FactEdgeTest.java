@@ -60,6 +60,11 @@ public final class FactEdgeTest {
         CHECK.due("promises 9 to 13: " + KINDS[kind] + ": state", court.state(0, 500, facts), states[kind]);
         CHECK.due("promises 9 to 13: " + KINDS[kind] + ": with a condition", court.state(1, 500, facts), withCondition[kind]);
         CHECK.due("promises 9 to 13: " + KINDS[kind] + ": proved", court.proved(2, facts), proofs[kind]);
+        String unknown = "promises 9 to 13: " + KINDS[kind] + ", as known by none: ";
+        CHECK.due(unknown + "barred", court.barred(0, 0), -1);
+        CHECK.due(unknown + "state", court.state(0, 500, 0), 6);
+        CHECK.due(unknown + "with a condition", court.state(1, 500, 0), 2);
+        CHECK.due(unknown + "proved", court.proved(2, 0), -1);
     }
 
     private static void promise12NothingElseReturns(int kind) {
@@ -68,5 +73,6 @@ public final class FactEdgeTest {
         tell(court, kind, 605);
         int[] states = {7, 8, 8, 6, 8, 8, 8, 8, 8, 8};
         CHECK.due("promise 12: absent, and then " + KINDS[kind], court.state(0, 9999, court.count(3)), states[kind]);
+        CHECK.due("promise 12: absent, ahead of " + KINDS[kind], court.state(0, 9999, 1), 8);
     }
 }

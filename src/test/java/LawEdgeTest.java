@@ -15,6 +15,7 @@ public final class LawEdgeTest {
         promise16OfOneDayTheLastRead();
         promise16FirstAndLastDay();
         promise16OtherPlaces();
+        promise16ByItsOwnDay();
         promise16EightLaws();
         promise16TextsWithAFaultAreNotCounted();
         promise16NoSuchPromise();
@@ -108,6 +109,21 @@ public final class LawEdgeTest {
         law(court, 3, 300, 2);
         law(court, 0, 9999, -1);
         law(court, 2, 9999, -1);
+    }
+
+    /** The law is that of the promise's DAY, though its EFFECT falls under a later one. */
+    private static void promise16ByItsOwnDay() {
+        PromiseCourt court = couple();
+        Check.read(court, "proof if 1 == 1; bar if vow == 1; back 10;", 0, 100);
+        Check.read(court, "back 20;", 0, 101);
+        court.promise(0, 1, 0, 100, 0, 3);
+        court.gift(0, 0, 100);
+        court.comes(3, 500, true);
+        court.fate(1, 0, 500);
+        CHECK.due("promise 16: met under a later law", court.law(0), 0);
+        CHECK.due("promise 17: met under a later law", court.proved(0, 2), 0);
+        CHECK.due("promise 18: met under a later law", court.barred(0, 2), 1);
+        CHECK.due("promise 22: met under a later law", court.goes(0, 500, 2), 10);
     }
 
     private static void promise16EightLaws() {
